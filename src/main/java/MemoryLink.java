@@ -266,7 +266,10 @@ public final class MemoryLink {
         }
     }
 
-    /** The row IN of an end, and whether a packet is open in it. */
+    /**
+     * The row IN of an end, and whether a packet is open in it. Only in RUN do packet characters come,
+     * and a fall from it closes the packet, so that RUN always begins with none open; OUT is alike.
+     */
     private static final class Inlet {
         private final Row row;
         private boolean open;
@@ -286,10 +289,6 @@ public final class MemoryLink {
 
         int removeFirst() {
             return row.removeFirst();
-        }
-
-        void beginRun() {
-            open = false;
         }
 
         void breakOff() {
@@ -335,10 +334,6 @@ public final class MemoryLink {
             int c = row.removeFirst();
             open = isData(c);
             return c;
-        }
-
-        void beginRun() {
-            open = false;
         }
 
         void breakOff() {
@@ -463,8 +458,6 @@ public final class MemoryLink {
             loan += LENT_AT_ONCE;
             if (state == CONNECTING) {
                 begin(RUN);
-                in.beginRun();
-                out.beginRun();
                 runBegan = true;
             }
         }

@@ -47,6 +47,8 @@ final class CommandsTest {
         int[] shorter = Arrays.copyOf(good, 9);
         shorter[8] = Links.END;
         countAfter("eight bytes", 0, shorter);
+        int[] zeroCheck = {254, 1, 76, 32, 0, 0, 0, Links.check(254, 1, 76, 32, 0, 0, 0), Links.END};
+        countAfter("eight bytes whose check is 0, as a missing byte might be read", 0, zeroCheck);
         int[] otherCheck = good.clone();
         otherCheck[8] ^= 1;
         countAfter("wrong check", 0, otherCheck);
