@@ -293,7 +293,8 @@ public final class MemoryLink {
 
         void breakOff() {
             if (open) {
-                receive(PACKET_BREAK);
+                row.append(PACKET_BREAK);
+                open = false;
             }
         }
     }
