@@ -93,10 +93,10 @@ final class CommandsTest {
             link.run(2);
         }
         link.put(0, Links.END);
-        Links.settle(link);
+        link.run(40);
         EXPECT.same("more than forty are dropped", link.commands(), 0);
         Links.putAll(link, 0, Links.packet(76, 0, 1));
-        Links.settle(link);
+        link.run(40);
         EXPECT.same("and the next is a command", link.commands(), 1);
     }
 

@@ -2,12 +2,18 @@
 final class Expect {
     private int wrong = 0;
     private int compared = 0;
+    private String sentence = "";
+
+    /** Names the sentence of the document that the answers from here on are held against. */
+    void under(String quoted) {
+        sentence = "\"" + quoted + "\": ";
+    }
 
     void same(String what, long got, long due) {
         compared++;
         if (got != due) {
             wrong++;
-            System.out.println(what + ": answered " + got + ", due is " + due);
+            System.out.println(sentence + what + ": answered " + got + ", due is " + due);
         }
     }
 

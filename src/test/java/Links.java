@@ -1,3 +1,5 @@
+import java.util.Arrays;
+
 /** What the tests share: names for the document's numbers, and links that are already up. */
 final class Links {
     static final int BAD = MemoryLink.BAD;
@@ -53,6 +55,35 @@ final class Links {
         return link;
     }
 
+    /** The end is neither enabled nor on auto for one tick, and so falls out of RUN. */
+    static void fell(MemoryLink link, int end) {
+        link.control(end, false, false);
+        link.run(1);
+        link.control(end, true, false);
+    }
+
+    /** Both ends fall in the same tick, because what each of them sends is spoiled. */
+    static void bothFell(MemoryLink link) {
+        link.spoil(0);
+        link.spoil(1);
+        link.run(2);
+    }
+
+    /** Both ends fall in the next tick, before they send anything in it. */
+    static void bothFellAtOnce(MemoryLink link) {
+        link.control(0, false, false);
+        link.control(1, false, false);
+        link.run(1);
+        link.control(0, true, false);
+        link.control(1, true, false);
+    }
+
+    static void putTimes(MemoryLink link, int end, int times, int c) {
+        for (int i = 0; i < times; i++) {
+            link.put(end, c);
+        }
+    }
+
     static void putAll(MemoryLink link, int end, int... characters) {
         for (int c : characters) {
             link.put(end, c);
@@ -77,13 +108,33 @@ final class Links {
 
     /** A command packet by hand, so that its parts need not fit together. */
     static int[] packet(int instruction, int address, int length, int... data) {
-        int[] head = {254, 1, instruction, 32, 1, 2, address, length};
+        return packetOf(new int[] {254, 1, instruction, 32, 1, 2, address, length}, data);
+    }
+
+    /** A packet of eight bytes, their check, and data. */
+    static int[] packetOf(int[] head, int... data) {
         int[] whole = new int[10 + data.length];
         System.arraycopy(head, 0, whole, 0, 8);
         whole[8] = check(head);
         System.arraycopy(data, 0, whole, 9, data.length);
         whole[9 + data.length] = END;
         return whole;
+    }
+
+    /** Bytes and, behind them, their check. */
+    static int[] checked(int... bytes) {
+        int[] whole = Arrays.copyOf(bytes, bytes.length + 1);
+        whole[bytes.length] = check(bytes);
+        return whole;
+    }
+
+    /** So many bytes, from a first one on, each one more than the one before (modulo 256). */
+    static int[] rising(int count, int first) {
+        int[] bytes = new int[count];
+        for (int k = 0; k < count; k++) {
+            bytes[k] = (first + k) % 256;
+        }
+        return bytes;
     }
 
     /** Lets a link work and empties IN of end 0, so that replies never stand in the way. */
@@ -95,7 +146,11 @@ final class Links {
     }
 
     static void drain(MemoryLink link, int end) {
-        for (int i = 0; i < 25; i++) {
+        takeTimes(link, end, 25);
+    }
+
+    static void takeTimes(MemoryLink link, int end, int times) {
+        for (int i = 0; i < times; i++) {
             link.take(end);
         }
     }

@@ -4,6 +4,8 @@ import java.lang.management.ManagementFactory;
 final class RoomTest {
     private static final long BYTES_OF_A_LINK = 4096;
     private static final long BYTES_OF_ALL_CALLS = 65536;
+    // With the two calls that enable the ends, these stay under the document's 512.
+    private static final int CALLS = 508;
 
     public static void main(String[] args) {
         Expect expect = new Expect();
@@ -26,7 +28,7 @@ final class RoomTest {
     }
 
     private static void work(MemoryLink link) {
-        for (int i = 0; i < 512; i += 4) {
+        for (int i = 0; i < CALLS; i += 4) {
             link.run(200);
             link.command(124, 32, i, 0, 16, i % 256, 0);
             link.command(76, 32, i, 0, 16, 0, 0);
