@@ -22,7 +22,8 @@ final class CommandsTest {
         int[][] rows = {{108, 32}, {76, 32}, {92, 32}, {108, 0}, {0, 32}, {255, 255}, {96, 32}};
         for (int[] row : rows) {
             link.command(row[0], row[1], 0, 0, 2, 0, 0);
-            Links.settle(link);
+            link.run(60);
+            Links.drain(link, 0);
             count++;
             EXPECT.same("after " + row[0], link.commands(), count);
         }
